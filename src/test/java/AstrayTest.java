@@ -2,45 +2,61 @@ import java.lang.reflect.Field;
 import java.util.List;
 
 /**
- * astray() tells 0 as long as the class keeps its word, so here objects are spoiled from inside: a
- * danger is hidden, or what a call once told is changed, and astray() must see it.
+ * Promise 21, each sentence with a test of its own. astray() tells 0 as long as the class keeps its
+ * word, so here objects are spoiled from inside: a danger is hidden, or what a call once told is
+ * changed, and astray() must see it.
  */
-public final class AstrayTest {
-    private static int wrong = 0;
-
-    private static void due(String call, long got, long want) {
-        if (got != want) {
-            wrong++;
-            System.out.println(call + " answered " + got + ", due is " + want);
+public final class AstrayTest extends Check {
+    private static Field field(Object of, String name) {
+        try {
+            Field field = of.getClass().getDeclaredField(name);
+            field.setAccessible(true);
+            return field;
+        } catch (NoSuchFieldException e) {
+            throw new IllegalStateException(e);
         }
     }
 
-    private static Field field(Object of, String name) throws Exception {
-        Field field = of.getClass().getDeclaredField(name);
-        field.setAccessible(true);
-        return field;
+    private static Object get(Object of, String name) {
+        try {
+            return field(of, name).get(of);
+        } catch (IllegalAccessException e) {
+            throw new IllegalStateException(e);
+        }
     }
 
-    private static Object get(Object of, String name) throws Exception {
-        return field(of, name).get(of);
+    private static void set(Object of, String name, Object value) {
+        try {
+            field(of, name).set(of, value);
+        } catch (IllegalAccessException e) {
+            throw new IllegalStateException(e);
+        }
     }
 
-    private static Object element(Object of, String list, int i) throws Exception {
+    private static Object element(Object of, String list, int i) {
         return ((List<?>) get(of, list)).get(i);
     }
 
-    private static void hideOut(RingKeeper x, int t) throws Exception {
-        Object transaction = element(x, "begun", t - 1);
-        field(transaction, "out").set(transaction, 0);
+    private static void hideOut(RingKeeper x, int t) {
+        set(element(x, "begun", t - 1), "out", 0);
+    }
+
+    /** As if t had looked at nothing; what its calls told stays. */
+    private static void hideLookings(RingKeeper x, int t) {
+        set(get(element(x, "begun", t - 1), "looked"), "size", 0);
     }
 
     /** What call i of a transaction told. */
-    private static Object then(RingKeeper x, int t, int i) throws Exception {
+    private static Object then(RingKeeper x, int t, int i) {
         return get(element(element(x, "begun", t - 1), "calls", i), "then");
     }
 
+    private static Object latestOf(RingKeeper x, int place) {
+        return get(element(get(x, "store"), "chains", place), "top");
+    }
+
     /** Two that each look at what the other writes. */
-    private static void addRing(RingKeeper x, int key) throws Exception {
+    private static void addRing(RingKeeper x, int key) {
         int a = x.begin(false);
         int b = x.begin(false);
         x.read(a, key);
@@ -52,118 +68,321 @@ public final class AstrayTest {
         due("commit into a hidden danger", x.commit(b), 0);
     }
 
-    private static void rings() throws Exception {
-        RingKeeper x = new RingKeeper();
-        int first = x.begin(false);
-        x.write(first, 1, 1);
-        x.commit(first);
-        addRing(x, 1);
-        int behind = x.begin(false);
-        x.scan(behind, 0, 9, 9);
-        x.commit(behind);
-        due("astray() with a ring", x.astray(), 2);
-        addRing(x, 11);
-        due("astray() with two rings", x.astray(), 4);
+    private static void dueAstray(RingKeeper x, int want) {
+        due("astray()", x.astray(), want);
     }
 
-    private static void ringOfThree() throws Exception {
-        RingKeeper x = new RingKeeper();
-        int bystander = x.begin(true);
-        for (int i = 0; i < 3; i++) x.begin(false);
-        for (int i = 0; i < 3; i++) {
-            x.near(2 + i, 10 * i, true);
-            x.near(2 + i, 10 * i, false);
-        }
-        // Each looked at all keys: a ring of three however they commit.
-        for (int i = 0; i < 3; i++) x.write(2 + i, 100 * i, i);
-        for (int i = 0; i < 3; i++) {
-            hideOut(x, 2 + i);
-            due("commit", x.commit(2 + i), 0);
-        }
-        x.commit(bystander);
-        due("astray() with three on rings", x.astray(), 3);
-    }
-
-    /** A ring over a READ-ONLY one: it saw the second, not the first, which did not see the second. */
-    private static void ringOverReadOnly() throws Exception {
-        RingKeeper x = new RingKeeper();
-        int first = x.begin(false);
-        int second = x.begin(false);
-        x.read(first, 2);
-        x.write(second, 2, 2);
-        x.commit(second);
-        int looker = x.begin(true);
-        x.read(looker, 1);
-        x.read(looker, 2);
-        x.write(first, 1, 1);
-        hideOut(x, first);
-        due("commit", x.commit(first), 0);
-        due("SAFE, wrongly", x.told(looker, 7), 2);
-        due("commit", x.commit(looker), 0);
-        due("astray() with a ring over a READ-ONLY one", x.astray(), 3);
-    }
-
-    private static RingKeeper withLookings() {
-        RingKeeper x = new RingKeeper();
-        int t = x.begin(false);
-        x.write(t, 1, 10);
-        x.write(t, 2, 20);
-        x.commit(t);
-        int u = x.begin(false);
-        x.read(u, 1);
-        x.near(u, 2, true);
-        x.scan(u, 0, 9, 9);
-        x.read(u, 7);
-        x.write(u, 1, 11);
-        x.commit(u);
+    /**
+     * X (2) writes 1 and 2. Z (1) looked at 2 before, so Z comes ahead of X. Y (3) began behind X and
+     * looks at 3, which Z writes then, so Y comes ahead of Z. What Y does besides may close the ring.
+     */
+    private static RingKeeper openRing(Step ofY, RingKeeper x) {
+        x.begin(false);
+        x.begin(false);
+        x.read(1, 2);
+        x.write(2, 1, 10);
+        x.write(2, 2, 20);
+        x.commit(2);
+        x.begin(false);
+        x.read(3, 3);
+        ofY.run();
+        due("commit of Y", x.commit(3), 0);
+        x.write(1, 3, 30);
+        hideOut(x, 1);
+        due("commit of Z", x.commit(1), 0);
         return x;
     }
 
-    private static void otherAnswers() throws Exception {
-        due("astray() as it is", withLookings().astray(), 0);
-        String[] numbers = {"foundKey", "result", "rows"};
-        for (int call = 0; call < 4; call++) {
-            for (String name : numbers) {
+    private static void comesAhead() {
+        edge("Over all that were COMMITTED (none was)", () -> {
+            RingKeeper x = new RingKeeper();
+            dueAstray(x, 0);
+            x.begin(false);
+            x.write(1, 1, 1);
+            x.read(1, 1);
+            dueAstray(x, 0);
+            x.abort(1);
+            dueAstray(x, 0);
+        });
+        edge("Over all that were COMMITTED (a ring over one that is ABORTED is none)", () -> {
+            RingKeeper x = new RingKeeper();
+            x.begin(false);
+            x.begin(false);
+            x.read(1, 1);
+            x.read(2, 2);
+            x.write(1, 2, 1);
+            x.write(2, 1, 1);
+            x.commit(1);
+            due("commit", x.commit(2), 2);
+            dueAstray(x, 0);
+        });
+        edge("Over all that were COMMITTED (KEPT or not)", () -> {
+            RingKeeper x = new RingKeeper();
+            addRing(x, 1);
+            due("kept", x.count(6), 0);
+            dueAstray(x, 2);
+        });
+        edge("X comes ahead of Y (another one)", () -> {
+            RingKeeper x = with(1);
+            x.begin(false);
+            x.scan(2, 0, 9, 9);
+            x.write(2, 1, 1);
+            x.write(2, 5, 1);
+            x.near(2, 0, true);
+            x.read(2, 5);
+            due("commit", x.commit(2), 0);
+            dueAstray(x, 0);
+        });
+        edge("(without more the three are no ring)", () -> {
+            RingKeeper x = new RingKeeper();
+            dueAstray(openRing(() -> x.read(3, 9), x), 0);
+        });
+        edge("if Y looked at a key and SAW the version of X there", () -> {
+            RingKeeper x = new RingKeeper();
+            dueAstray(openRing(() -> x.read(3, 1), x), 3);
+        });
+        edge("looked at a key (a SAFE one too)", () -> {
+            RingKeeper x = new RingKeeper();
+            x.begin(false);
+            x.begin(false);
+            x.read(1, 2);
+            x.write(2, 2, 2);
+            x.commit(2);
+            x.begin(true);
+            x.read(3, 1);
+            x.read(3, 2);
+            x.write(1, 1, 1);
+            hideOut(x, 1);
+            due("commit", x.commit(1), 0);
+            due("SAFE, wrongly", x.told(3, 7), 2);
+            due("commit", x.commit(3), 0);
+            dueAstray(x, 3);
+        });
+        edge("of a key with a write of its own: would have seen without", () -> {
+            RingKeeper x = new RingKeeper();
+            dueAstray(openRing(() -> {
+                x.save(3);
+                x.write(3, 1, 11);
+                x.near(3, 1, true);
+                x.undo(3, 1);
+            }, x), 3);
+        });
+        edge("looked (a read() of a key with a write of its own did not)", () -> {
+            RingKeeper x = new RingKeeper();
+            dueAstray(openRing(() -> {
+                x.save(3);
+                x.write(3, 1, 11);
+                x.read(3, 1);
+                x.undo(3, 1);
+            }, x), 0);
+        });
+        edge("if Y's version of a key is the next one behind X's", () -> {
+            RingKeeper x = new RingKeeper();
+            dueAstray(openRing(() -> x.write(3, 1, 11), x), 3);
+            RingKeeper y = new RingKeeper();
+            dueAstray(openRing(() -> y.remove(3, 1), y), 3);
+        });
+        edge("if X looked at a key where the next version behind the one that it saw there is Y's", () -> {
+            RingKeeper x = with(1, 2);
+            addRing(x, 1);
+            dueAstray(x, 2);
+        });
+        edge("or the first one of all, if it saw none", () -> {
+            RingKeeper x = new RingKeeper();
+            addRing(x, 1);
+            dueAstray(x, 2);
+        });
+    }
+
+    private static void rings() {
+        edge("how many are on rings (one ring; those ahead of it and behind it are not)", () -> {
+            RingKeeper x = with(1);
+            addRing(x, 1);
+            int behind = x.begin(false);
+            x.scan(behind, 0, 9, 9);
+            x.commit(behind);
+            dueAstray(x, 2);
+        });
+        edge("how many are on rings (two rings; one between them is not)", () -> {
+            RingKeeper x = new RingKeeper();
+            addRing(x, 1);
+            int between = x.begin(false);
+            x.scan(between, 0, 20, 9);
+            x.commit(between);
+            addRing(x, 11);
+            dueAstray(x, 4);
+        });
+        edge("how many are on rings (three that share it)", () -> {
+            RingKeeper x = new RingKeeper();
+            x.begin(true);
+            for (int i = 0; i < 3; i++) x.begin(false);
+            for (int t = 2; t <= 4; t++) x.scan(t, MIN, MAX, 9);
+            for (int t = 2; t <= 4; t++) x.write(t, 100 * t, t);
+            for (int t = 2; t <= 4; t++) {
+                hideOut(x, t);
+                due("commit", x.commit(t), 0);
+            }
+            x.commit(1);
+            dueAstray(x, 3);
+        });
+        edge("how many are on rings (many, past the 64th moment)", () -> {
+            RingKeeper x = new RingKeeper();
+            for (int i = 0; i < 40; i++) addRing(x, 10 * i);
+            put(x, -1);
+            dueAstray(x, 80);
+        });
+        edge("If there is a ring (then other answers do not count)", () -> {
+            RingKeeper x = withLookings();
+            addRing(x, 11);
+            set(then(x, 2, 0), "foundValue", 99L);
+            dueAstray(x, 2);
+        });
+    }
+
+    /** 1 wrote 1 and 2; 2 has read 1, gone near 2, scanned both, read 7, which has NOTHING, and written 1. */
+    private static RingKeeper withLookings() {
+        RingKeeper x = with(1, 2);
+        x.begin(false);
+        x.read(2, 1);
+        x.near(2, 2, true);
+        x.scan(2, 0, 9, 9);
+        x.read(2, 7);
+        x.write(2, 1, 11);
+        x.commit(2);
+        return x;
+    }
+
+    private static void doneAgain() {
+        edge("from NOTHING on", () -> {
+            RingKeeper x = new RingKeeper();
+            x.begin(false);
+            x.scan(1, MIN, MAX, 100);
+            x.near(1, 0, false);
+            x.read(1, 0);
+            x.write(1, 0, 1);
+            x.commit(1);
+            dueAstray(x, 0);
+        });
+        edge("each as a whole with all its calls", () -> {
+            RingKeeper x = with(1, 2, 3);
+            x.begin(false);
+            for (int n = 1; n <= 11; n++) x.save(2);
+            x.remove(2, 2);
+            x.read(2, 2);
+            x.scan(2, 0, 9, 2);
+            x.undo(2, 4);
+            x.read(2, 2);
+            x.write(2, 4, 40);
+            x.near(2, 4, true);
+            x.save(2);
+            x.write(2, 5, 50);
+            x.undo(2, 5);
+            x.scan(2, 0, 9, 9);
+            x.commit(2);
+            dueAstray(x, 0);
+        });
+        edge("one only when all that come ahead of it are done", () -> {
+            RingKeeper x = with(1);
+            int first = x.begin(false);
+            x.read(first, 1);
+            x.scan(first, 1, 9, 9);
+            x.near(first, 2, true);
+            put(x, 1);
+            put(x, 4);
+            x.write(first, 9, 90);
+            due("commit", x.commit(first), 0);
+            put(x, 9);
+            dueAstray(x, 0);
+        });
+        edge("of several the one with the least moment first", () -> {
+            RingKeeper x = new RingKeeper();
+            x.begin(false);
+            x.read(1, 1);
+            put(x, 1);
+            x.commit(1);
+            hideLookings(x, 1);
+            dueAstray(x, 1);
+            RingKeeper y = new RingKeeper();
+            y.begin(false);
+            y.read(1, 1);
+            y.commit(1);
+            put(y, 1);
+            hideLookings(y, 1);
+            dueAstray(y, 0);
+        });
+    }
+
+    private static void otherAnswers() {
+        edge("answered something else than then", () -> {
+            dueAstray(withLookings(), 0);
+            for (int call = 0; call < 4; call++) {
                 RingKeeper x = withLookings();
                 Object told = then(x, 2, call);
-                field(told, name).set(told, (Integer) get(told, name) + 1);
-                due("astray() with another " + name + " of call " + call, x.astray(), 1);
+                set(told, "result", (Integer) get(told, "result") + 1);
+                dueAstray(x, 1);
             }
+        });
+        edge("FOUND something else", () -> {
+            for (int call = 0; call < 2; call++) {
+                RingKeeper x = withLookings();
+                set(then(x, 2, call), "foundKey", 99);
+                dueAstray(x, 1);
+                RingKeeper y = withLookings();
+                set(then(y, 2, call), "foundValue", 99L);
+                dueAstray(y, 1);
+            }
+        });
+        edge("gave as ROWS something else", () -> {
             RingKeeper x = withLookings();
-            Object told = then(x, 2, call);
-            field(told, "foundValue").set(told, 99L);
-            due("astray() with another value found by call " + call, x.astray(), 1);
-        }
-        RingKeeper x = withLookings();
-        ((long[]) get(then(x, 2, 2), "values"))[1]++;
-        due("astray() with another row value", x.astray(), 1);
-        RingKeeper y = withLookings();
-        ((int[]) get(then(y, 2, 2), "keys"))[0]++;
-        ((long[]) get(then(y, 2, 2), "values"))[0]++;
-        field(then(y, 2, 0), "result").set(then(y, 2, 0), 0);
-        due("astray() with two other answers", y.astray(), 2);
+            ((long[]) get(then(x, 2, 2), "values"))[1]++;
+            dueAstray(x, 1);
+            RingKeeper y = withLookings();
+            ((int[]) get(then(y, 2, 2), "keys"))[0]++;
+            dueAstray(y, 1);
+            RingKeeper z = withLookings();
+            set(then(z, 2, 2), "rows", 1);
+            dueAstray(z, 1);
+        });
+        edge("how many of their read(), near(), scan() (each counts once)", () -> {
+            RingKeeper x = withLookings();
+            for (int i = 0; i < 2; i++) {
+                ((int[]) get(then(x, 2, 2), "keys"))[i]++;
+                ((long[]) get(then(x, 2, 2), "values"))[i]++;
+            }
+            set(then(x, 2, 0), "foundKey", 99);
+            set(then(x, 2, 0), "foundValue", 99L);
+            set(then(x, 2, 3), "result", 1);
+            dueAstray(x, 3);
+        });
+        edge("how many keys have another value than the latest versions say", () -> {
+            RingKeeper x = withLookings();
+            for (int place = 0; place < 2; place++) set(latestOf(x, place), "value", 77L);
+            dueAstray(x, 2);
+        });
+        edge("another value (NOTHING for a value, or a value for NOTHING)", () -> {
+            RingKeeper x = withLookings();
+            set(latestOf(x, 0), "there", false);
+            dueAstray(x, 1);
+            RingKeeper y = with(1);
+            drop(y, 1);
+            set(latestOf(y, 0), "there", true);
+            dueAstray(y, 1);
+        });
+        edge("and how many keys (added to the calls)", () -> {
+            RingKeeper x = withLookings();
+            set(latestOf(x, 0), "value", 77L);
+            set(then(x, 2, 0), "foundValue", 99L);
+            set(then(x, 2, 1), "foundValue", 99L);
+            dueAstray(x, 3);
+        });
     }
 
-    private static void otherValues() throws Exception {
-        RingKeeper x = withLookings();
-        for (int i = 0; i < 2; i++) {
-            Object top = get(element(get(x, "store"), "chains", i), "top");
-            field(top, "value").set(top, 77L);
-        }
-        due("astray() with two other values", x.astray(), 2);
-        RingKeeper y = withLookings();
-        Object top = get(element(get(y, "store"), "chains", 1), "top");
-        field(top, "there").set(top, false);
-        due("astray() with NOTHING for a value", y.astray(), 1);
-    }
-
-    public static void main(String[] args) throws Exception {
+    public static void main(String[] args) {
+        at("promise 21");
+        comesAhead();
         rings();
-        ringOfThree();
-        ringOverReadOnly();
+        doneAgain();
         otherAnswers();
-        otherValues();
-        System.out.println(wrong == 0 ? "all answers are as due" : wrong + " answers are not as due");
-        if (wrong != 0) System.exit(1);
+        end();
     }
 }

@@ -1,77 +1,5 @@
 /** The promises of the document, each by hand: ordinary inputs, the edges, wrong inputs. */
-public final class PromisesTest {
-    private static final int NONE = RingKeeper.NONE;
-    private static final int MIN = Integer.MIN_VALUE;
-    private static final int MAX = Integer.MAX_VALUE;
-    private static int wrong = 0;
-    private static int promise = 0;
-
-    interface Step { void run(); }
-
-    private static void due(String call, long got, long want) {
-        if (got != want) {
-            wrong++;
-            System.out.println("promise " + promise + ": " + call + " answered " + got + ", due is " + want);
-        }
-    }
-
-    private static void dueThrow(String call, String want, Step step) {
-        String got = "nothing";
-        try {
-            step.run();
-        } catch (RuntimeException e) {
-            got = e.getClass().getSimpleName();
-        }
-        if (!got.equals(want)) {
-            wrong++;
-            System.out.println("promise " + promise + ": " + call + " threw " + got + ", due is " + want);
-        }
-    }
-
-    private static void dueTold(RingKeeper x, int t, int... want) {
-        for (int what = 0; what < want.length; what++) due("told(" + t + ", " + what + ")", x.told(t, what), want[what]);
-    }
-
-    private static void dueWhy(RingKeeper x, int... want) {
-        for (int what = 0; what < want.length; what++) due("why(" + what + ")", x.why(what), want[what]);
-    }
-
-    private static void dueRows(RingKeeper x, long... keysAndValues) {
-        int n = keysAndValues.length / 2;
-        for (int i = 0; i < n; i++) {
-            due("rowKey(" + i + ")", x.rowKey(i), keysAndValues[2 * i]);
-            due("rowValue(" + i + ")", x.rowValue(i), keysAndValues[2 * i + 1]);
-        }
-        dueThrow("rowKey(" + n + ")", "NoSuchElementException", () -> x.rowKey(n));
-        dueThrow("rowValue(" + n + ")", "NoSuchElementException", () -> x.rowValue(n));
-    }
-
-    /** One transaction that writes each key with ten times the key as its value. */
-    private static RingKeeper with(int... keys) {
-        RingKeeper x = new RingKeeper();
-        put(x, keys);
-        return x;
-    }
-
-    private static int put(RingKeeper x, int... keys) {
-        int t = x.begin(false);
-        for (int key : keys) x.write(t, key, key * 10L);
-        due("commit", x.commit(t), 0);
-        return t;
-    }
-
-    /** What every call that lists IllegalStateException does with numbers that are not ACTIVE. */
-    private static void dueOnlyActive(String call, java.util.function.BiConsumer<RingKeeper, Integer> step) {
-        RingKeeper x = with(1);
-        x.abort(x.begin(false));
-        x.begin(true);
-        for (int t : new int[] {MIN, -1, 0, 1, 2, 4, MAX}) {
-            dueThrow(call + " of " + t, "IllegalStateException", () -> step.accept(x, t));
-        }
-        due("count(0)", x.count(0), 3);
-        due("told(3, 6)", x.told(3, 6), 0);
-    }
-
+public final class PromisesTest extends Check {
     private static void newObject() {
         RingKeeper x = new RingKeeper();
         for (int what = 0; what <= 11; what++) due("count(" + what + ")", x.count(what), 0);
@@ -152,20 +80,6 @@ public final class PromisesTest {
         due("read undone", x.read(s, 1), 0);
         due("runs", x.told(s, 6), 1);
         dueOnlyActive("read", (y, n) -> y.read(n, 1));
-    }
-
-    /** 1 began first, 2 reads 1 and writes 2, 3 writes 1: 3 and then 2 commit, so OUT of 2 is 3's moment. */
-    private static RingKeeper withPivot() {
-        RingKeeper x = new RingKeeper();
-        x.begin(false);
-        x.begin(false);
-        x.begin(false);
-        x.read(2, 1);
-        x.write(2, 2, 20);
-        x.write(2, 6, 60);
-        x.write(3, 1, 10);
-        due("commit(3)", x.commit(3), 0);
-        return x;
     }
 
     private static void refusedLooking() {
@@ -267,7 +181,7 @@ public final class PromisesTest {
     private static void valueAndKey() {
         RingKeeper x = with(1, 2);
         int t = x.begin(false);
-        promise = 5;
+        at("promise 5");
         due("value()", x.value(), 0);
         x.read(t, 2);
         due("value()", x.value(), 20);
@@ -283,7 +197,7 @@ public final class PromisesTest {
         due("value() of another", x.value(), 10);
         x.abort(t);
         due("value() behind an abort", x.value(), 10);
-        promise = 6;
+        at("promise 6");
         RingKeeper y = with(1, 2);
         t = y.begin(false);
         due("key()", y.key(), 0);
@@ -370,7 +284,7 @@ public final class PromisesTest {
         x.scan(t, 0, 9, 9);
         x.abort(t);
         for (int who = 8; who <= 9; who++) {
-            promise = who;
+            at("promise " + who);
             dueRows(x, 4, 40, 6, 60);
             for (int i : new int[] {MIN, -1, 2, 100, MAX}) {
                 dueThrow("rowKey(" + i + ")", "NoSuchElementException", () -> x.rowKey(i));
@@ -387,7 +301,7 @@ public final class PromisesTest {
     }
 
     private static void writeAndRemove() {
-        promise = 10;
+        at("promise 10");
         RingKeeper x = with(1);
         int t = x.begin(false);
         due("write", x.write(t, 1, 5), 1);
@@ -407,7 +321,7 @@ public final class PromisesTest {
         x.commit(r);
         dueThrow("write of an ended READ-ONLY one", "IllegalStateException", () -> x.write(r, 1, 1));
         dueOnlyActive("write", (y, n) -> y.write(n, 1, 1));
-        promise = 11;
+        at("promise 11");
         due("remove", x.remove(u, 1), 1);
         due("remove of nothing", x.remove(u, 77), 2);
         due("remove again", x.remove(u, 77), 2);
@@ -421,7 +335,7 @@ public final class PromisesTest {
     }
 
     private static void saveAndUndo() {
-        promise = 12;
+        at("promise 12");
         RingKeeper x = with(1);
         int t = x.begin(false);
         for (int n = 1; n <= 10; n++) due("save", x.save(t), n);
@@ -431,7 +345,7 @@ public final class PromisesTest {
         due("save", x.save(t), 10);
         due("save of a READ-ONLY one", x.save(x.begin(true)), 1);
         dueOnlyActive("save", (y, n) -> y.save(n));
-        promise = 13;
+        at("promise 13");
         RingKeeper y = with(1);
         int u = y.begin(false);
         dueThrow("undo without a place", "IndexOutOfBoundsException", () -> y.undo(u, 1));
@@ -719,7 +633,7 @@ public final class PromisesTest {
         int r = x.begin(false);
         x.remove(r, 1);
         x.commit(r);
-        promise = 18;
+        at("promise 18");
         int[][] dueVersions = {{3, 0, r, NONE}, {2, 1, 3, NONE}, {1, 1, 1, NONE}, {NONE, NONE, NONE, NONE}};
         for (int i = 0; i < 4; i++) {
             for (int what = 0; what < 4; what++) {
@@ -729,14 +643,14 @@ public final class PromisesTest {
         for (int i : new int[] {MIN, -1, MAX}) due("version " + i, x.version(1, i, 0), NONE);
         for (int what : new int[] {MIN, -1, MAX}) due("version " + what, x.version(1, 0, what), NONE);
         due("version of another key", x.version(2, 0, 0), NONE);
-        promise = 19;
+        at("promise 19");
         due("versionValue of NOTHING", x.versionValue(1, 0), 0);
         due("versionValue", x.versionValue(1, 1), 10);
         for (int i : new int[] {MIN, -1, 3, MAX}) due("versionValue " + i, x.versionValue(1, i), 0);
         due("count(8)", x.count(8), 3);
         due("count(9)", x.count(9), 1);
         x.commit(hold);
-        promise = 18;
+        at("promise 18");
         // NOTHING that is not above the horizon is not kept.
         due("version", x.version(1, 0, 0), NONE);
         due("count(8)", x.count(8), 0);
@@ -745,7 +659,7 @@ public final class PromisesTest {
         put(x, 1);
         due("only the latest", x.version(1, 1, 0), NONE);
         due("version", x.version(1, 0, 0), 6);
-        promise = 19;
+        at("promise 19");
         due("versionValue", x.versionValue(1, 1), 0);
         due("versionValue", x.versionValue(1, 0), 10);
     }
@@ -863,7 +777,7 @@ public final class PromisesTest {
     }
 
     private static void under(int number, Step step) {
-        promise = number;
+        at("promise " + number);
         step.run();
     }
 
@@ -890,7 +804,6 @@ public final class PromisesTest {
         under(20, PromisesTest::count);
         under(21, PromisesTest::astray);
         under(0, PromisesTest::manyCalls);
-        System.out.println(wrong == 0 ? "all answers are as due" : wrong + " answers are not as due");
-        if (wrong != 0) System.exit(1);
+        end();
     }
 }
